@@ -289,7 +289,7 @@ public final class SlabKitchen {
     private Shelf shelfToPut(Kind kind) {
         Shelf found = inUseByWay(kind);
         if (found == null) {
-            found = firstEmpty(kind);
+            found = firstInState(kind, EMPTY);
         }
         return found == null ? firstFree() : found;
     }
@@ -298,22 +298,13 @@ public final class SlabKitchen {
         switch (way) {
             case WAY_MOST: return mostBowls(kind, null);
             case WAY_FEWEST: return fewestBowls(kind);
-            default: return firstInUse(kind);
+            default: return firstInState(kind, IN_USE);
         }
     }
 
-    private Shelf firstInUse(Kind kind) {
+    private Shelf firstInState(Kind kind, int state) {
         for (Shelf shelf : shelves) {
-            if (shelf.isOf(kind) && shelf.state() == IN_USE) {
-                return shelf;
-            }
-        }
-        return null;
-    }
-
-    private Shelf firstEmpty(Kind kind) {
-        for (Shelf shelf : shelves) {
-            if (shelf.isOf(kind) && shelf.state() == EMPTY) {
+            if (shelf.isOf(kind) && shelf.state() == state) {
                 return shelf;
             }
         }
