@@ -3,27 +3,20 @@ public final class KindsAndBowlsTest {
     public static void main(String[] args) {
         newObject();
         kindNumbers();
-        kindRefused();
-        wayBefore();
-        wayRefused();
         putOpensShelves();
         putRims();
         putFillsSmallestGap();
         putByWays();
         putToEmptyBeforeFree();
         putInUseBeforeEmpty();
-        putRefused();
         takeTells();
-        takeRefused();
         reapByAge();
         reapForgets();
-        reapRefused();
         packMoves();
         packTies();
         packLeavesAlone();
         packFillsAndGoesOn();
         packEmptySince();
-        packRefused();
         Check.end();
     }
 
@@ -57,43 +50,6 @@ public final class KindsAndBowlsTest {
         }
         Check.due("count(2)", x.count(2), 12);
         Check.due("count(0)", x.count(0), 0);
-    }
-
-    private static void kindRefused() {
-        SlabKitchen x = new SlabKitchen();
-        int[] sizes = {1, 13, 0, -1, Integer.MIN_VALUE, Integer.MAX_VALUE};
-        for (int size : sizes) {
-            Check.refused(x, "kind(" + size + ")", Check.ARGUMENT, () -> x.kind(size));
-        }
-        for (int i = 0; i < 5; i++) {
-            x.kind(2 + i);
-        }
-        Check.refused(x, "sixth kind(2)", Check.STATE, () -> x.kind(2));
-        Check.refused(x, "sixth kind(12)", Check.STATE, () -> x.kind(12));
-        Check.refused(x, "sixth kind(1)", Check.ARGUMENT, () -> x.kind(1));
-        Check.refused(x, "sixth kind(13)", Check.ARGUMENT, () -> x.kind(13));
-    }
-
-    // Promise 3
-
-    private static void wayBefore() {
-        SlabKitchen x = new SlabKitchen();
-        Check.due("setWay(2)", x.setWay(2), 0);
-        Check.due("setWay(1)", x.setWay(1), 2);
-        Check.due("setWay(1)", x.setWay(1), 1);
-        Check.due("setWay(0)", x.setWay(0), 1);
-        Check.due("setWay(2)", x.setWay(2), 0);
-        Check.due("count(9)", x.count(9), 2);
-    }
-
-    private static void wayRefused() {
-        SlabKitchen x = new SlabKitchen();
-        x.setWay(1);
-        int[] ways = {-1, 3, Integer.MIN_VALUE, Integer.MAX_VALUE};
-        for (int way : ways) {
-            Check.refused(x, "setWay(" + way + ")", Check.BOUNDS, () -> x.setWay(way));
-        }
-        Check.due("setWay(0)", x.setWay(0), 1);
     }
 
     // Promise 4
@@ -175,24 +131,6 @@ public final class KindsAndBowlsTest {
         Check.dueRow("put(0)", Check.putRow(x, 0, 4), 48, 0, 12, 72);
     }
 
-    private static void putRefused() {
-        SlabKitchen x = new SlabKitchen();
-        Check.refused(x, "put(0) without kinds", Check.BOUNDS, () -> x.put(0));
-        x.kind(12);
-        x.kind(2);
-        int[] none = {-1, 2, 5, Integer.MIN_VALUE, Integer.MAX_VALUE};
-        for (int kind : none) {
-            Check.refused(x, "put(" + kind + ")", Check.BOUNDS, () -> x.put(kind));
-        }
-        Check.putRow(x, 0, 24);
-        Check.refused(x, "put(0) into a full kitchen", Check.STATE, () -> x.put(0));
-        Check.refused(x, "put(1) into a full kitchen", Check.STATE, () -> x.put(1));
-        Check.refused(x, "put(2) into a full kitchen", Check.BOUNDS, () -> x.put(2));
-        Check.takeAll(x, 120, 132);
-        Check.refused(x, "put(1) beside another's empty shelf", Check.STATE, () -> x.put(1));
-        Check.due("put(0) on its empty shelf", x.put(0), 120);
-    }
-
     // Promise 5
 
     private static void takeTells() {
@@ -209,22 +147,6 @@ public final class KindsAndBowlsTest {
         Check.due("put in all", x.count(7), 6);
     }
 
-    private static void takeRefused() {
-        SlabKitchen x = new SlabKitchen();
-        x.kind(7);
-        Check.putRow(x, 0, 5);
-        int[] noSpots = {-1, 288, Integer.MIN_VALUE, Integer.MAX_VALUE};
-        for (int spot : noSpots) {
-            Check.refused(x, "take(" + spot + ")", Check.BOUNDS, () -> x.take(spot));
-        }
-        int[] noBowls = {1, 6, 8, 13, 20, 21, 23, 24, 26, 31, 39, 46, 47, 48, 287};
-        for (int spot : noBowls) {
-            Check.refused(x, "take(" + spot + ")", Check.ARGUMENT, () -> x.take(spot));
-        }
-        Check.due("take(25)", x.take(25), 1);
-        Check.refused(x, "take(25) again", Check.ARGUMENT, () -> x.take(25));
-    }
-
     // Promise 6
 
     private static void reapByAge() {
@@ -232,7 +154,8 @@ public final class KindsAndBowlsTest {
         x.kind(12);
         Check.putRow(x, 0, 8);
         Check.takeAll(x, 0, 12, 24, 36, 48);
-        Check.dueRow("shelves", new int[] {x.shelf(0, 5), x.shelf(1, 5), x.shelf(2, 5)}, 10, 12, -1);
+        Check.dueRow("shelves", new int[] {x.shelf(0, 5), x.shelf(1, 5), x.shelf(2, 5)},
+                10, 12, -1);
         Check.due("reap(4) at the time 13", x.reap(4), 0);
         Check.due("reap(3) at the time 13", x.reap(3), 1);
         Check.dueRow("shelf 0", Check.shelfRow(x, 0), -1, 0, 0, 0, -1, -1);
@@ -277,28 +200,6 @@ public final class KindsAndBowlsTest {
         Check.due("time", y.count(0), 111);
         Check.due("reap(12)", y.reap(12), 0);
         Check.due("reap(11)", y.reap(11), 1);
-        SlabKitchen z = new SlabKitchen();
-        z.kind(12);
-        z.put(0);
-        z.take(0);
-        z.kind(2);
-        Check.putRow(z, 1, 98);
-        Check.due("reap(99) at the age 98", z.reap(99), 0);
-        z.put(1);
-        Check.due("reap(99) at the age 99", z.reap(99), 1);
-    }
-
-    private static void reapRefused() {
-        SlabKitchen x = new SlabKitchen();
-        x.kind(12);
-        x.put(0);
-        x.take(0);
-        int[] ages = {-1, 100, Integer.MIN_VALUE, Integer.MAX_VALUE};
-        for (int age : ages) {
-            Check.refused(x, "reap(" + age + ")", Check.ARGUMENT, () -> x.reap(age));
-        }
-        Check.due("reap(99)", x.reap(99), 0);
-        Check.due("reap(0)", x.reap(0), 1);
     }
 
     // Promise 7
@@ -342,7 +243,8 @@ public final class KindsAndBowlsTest {
         Check.due("pack(0) of 5 and 4", x.pack(0), 3);
         for (int place = 0; place < 8; place++) {
             Check.due("place " + place + " of shelf 0", x.place(place * 3, 2), 1);
-            Check.due("place " + place + " of shelf 1", x.place(24 + place * 3, 2), place == 1 ? 1 : 0);
+            Check.due("place " + place + " of shelf 1", x.place(24 + place * 3, 2),
+                    place == 1 ? 1 : 0);
         }
         Check.due("moved in all", x.count(8), 3);
     }
@@ -374,15 +276,5 @@ public final class KindsAndBowlsTest {
         Check.due("reap(1)", x.reap(1), 0);
         Check.due("put(0) on the packed shelf", x.put(0), 24);
         Check.due("since when shelf 1 is empty", x.shelf(1, 5), -1);
-    }
-
-    private static void packRefused() {
-        SlabKitchen x = new SlabKitchen();
-        Check.refused(x, "pack(0) without kinds", Check.BOUNDS, () -> x.pack(0));
-        x.kind(12);
-        int[] none = {-1, 1, 5, Integer.MIN_VALUE, Integer.MAX_VALUE};
-        for (int kind : none) {
-            Check.refused(x, "pack(" + kind + ")", Check.BOUNDS, () -> x.pack(kind));
-        }
     }
 }

@@ -251,7 +251,8 @@ public final class PlainModelTest {
                 case 10: return "" + copy().put(kind);
                 case 11: return "" + fits(kind);
                 case 12:
-                    return many < 1 || many > 150 ? "IllegalArgumentException" : "" + would(kind, many);
+                    return many < 1 || many > 150
+                            ? "IllegalArgumentException" : "" + would(kind, many);
                 default: return "" + gains(kind);
             }
         }

@@ -2,14 +2,10 @@
 public final class WhatThereIsTest {
     public static void main(String[] args) {
         shelfTells();
-        shelfRefused();
         aboutSizes();
         aboutShelves();
-        aboutRefused();
         placeTells();
-        placeRefused();
         countTells();
-        countRefused();
         Check.end();
     }
 
@@ -34,21 +30,6 @@ public final class WhatThereIsTest {
         Check.dueRow("shelf 0", Check.shelfRow(x, 0), -1, 0, 0, 0, -1, -1);
         Check.dueRow("shelf 3", Check.shelfRow(x, 3), -1, 0, 0, 0, -1, -1);
         Check.dueRow("shelf 11", Check.shelfRow(x, 11), -1, 0, 0, 0, -1, -1);
-    }
-
-    private static void shelfRefused() {
-        SlabKitchen x = new SlabKitchen();
-        x.kind(2);
-        x.put(0);
-        int[] shelves = {-1, 12, Integer.MIN_VALUE, Integer.MAX_VALUE};
-        for (int shelf : shelves) {
-            Check.refused(x, "shelf(" + shelf + ", 0)", Check.BOUNDS, () -> x.shelf(shelf, 0));
-        }
-        int[] whats = {-1, 6, Integer.MIN_VALUE, Integer.MAX_VALUE};
-        for (int what : whats) {
-            Check.refused(x, "shelf(0, " + what + ")", Check.BOUNDS, () -> x.shelf(0, what));
-            Check.refused(x, "shelf(11, " + what + ")", Check.BOUNDS, () -> x.shelf(11, what));
-        }
     }
 
     // Promise 9
@@ -80,21 +61,6 @@ public final class WhatThereIsTest {
         Check.dueRow("about(0)", Check.aboutRow(x, 0), 6, 4, 0, 2, 1, 1, 0, 7, 3);
         Check.putRow(x, 0, 2);
         Check.dueRow("about(0)", Check.aboutRow(x, 0), 6, 4, 0, 3, 2, 1, 0, 9, 4);
-    }
-
-    private static void aboutRefused() {
-        SlabKitchen x = new SlabKitchen();
-        Check.refused(x, "about(0, 0) without kinds", Check.BOUNDS, () -> x.about(0, 0));
-        x.kind(3);
-        x.put(0);
-        int[] kinds = {-1, 1, 4, 5, Integer.MIN_VALUE, Integer.MAX_VALUE};
-        for (int kind : kinds) {
-            Check.refused(x, "about(" + kind + ", 0)", Check.BOUNDS, () -> x.about(kind, 0));
-        }
-        int[] whats = {-1, 9, Integer.MIN_VALUE, Integer.MAX_VALUE};
-        for (int what : whats) {
-            Check.refused(x, "about(0, " + what + ")", Check.BOUNDS, () -> x.about(0, what));
-        }
     }
 
     // Promise 10
@@ -130,21 +96,6 @@ public final class WhatThereIsTest {
         Check.dueRow("place 50, free", Check.placeRow(x, 50), -1, -1, -1, -1);
     }
 
-    private static void placeRefused() {
-        SlabKitchen x = new SlabKitchen();
-        x.kind(12);
-        x.put(0);
-        int[] spots = {-1, 288, Integer.MIN_VALUE, Integer.MAX_VALUE};
-        for (int spot : spots) {
-            Check.refused(x, "place(" + spot + ", 0)", Check.BOUNDS, () -> x.place(spot, 0));
-        }
-        int[] whats = {-1, 4, Integer.MIN_VALUE, Integer.MAX_VALUE};
-        for (int what : whats) {
-            Check.refused(x, "place(0, " + what + ")", Check.BOUNDS, () -> x.place(0, what));
-            Check.refused(x, "place(287, " + what + ")", Check.BOUNDS, () -> x.place(287, what));
-        }
-    }
-
     // Promise 11
 
     private static void countTells() {
@@ -164,13 +115,5 @@ public final class WhatThereIsTest {
         x.take(73);
         Check.due("reap(0)", x.reap(0), 3);
         Check.dueRow("count", Check.countRow(x), 13, 3, 10, 5, 41, 7, 7, 9, 1, 2);
-    }
-
-    private static void countRefused() {
-        SlabKitchen x = new SlabKitchen();
-        int[] whats = {-1, 10, Integer.MIN_VALUE, Integer.MAX_VALUE};
-        for (int what : whats) {
-            Check.refused(x, "count(" + what + ")", Check.BOUNDS, () -> x.count(what));
-        }
     }
 }

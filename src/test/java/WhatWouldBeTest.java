@@ -3,16 +3,11 @@ public final class WhatWouldBeTest {
     public static void main(String[] args) {
         nextTells();
         nextByWays();
-        nextRefused();
         fitsTells();
-        fitsRefused();
         wouldTells();
-        wouldRefused();
         gainsTells();
-        gainsRefused();
         adviseTells();
         meanTells();
-        digestOfNew();
         digestOfUsed();
         Check.end();
     }
@@ -52,16 +47,6 @@ public final class WhatWouldBeTest {
         Check.due("next(0) by way 2", x.next(0), 48);
     }
 
-    private static void nextRefused() {
-        SlabKitchen x = new SlabKitchen();
-        Check.refused(x, "next(0) without kinds", Check.BOUNDS, () -> x.next(0));
-        x.kind(12);
-        int[] none = {-1, 1, 5, Integer.MIN_VALUE, Integer.MAX_VALUE};
-        for (int kind : none) {
-            Check.refused(x, "next(" + kind + ")", Check.BOUNDS, () -> x.next(kind));
-        }
-    }
-
     // Promise 13
 
     private static void fitsTells() {
@@ -86,16 +71,6 @@ public final class WhatWouldBeTest {
         x.take(14);
         Check.due("fits(0) with a place", x.fits(0), 1);
         Check.due("fits(1) with another's place", x.fits(1), 0);
-    }
-
-    private static void fitsRefused() {
-        SlabKitchen x = new SlabKitchen();
-        Check.refused(x, "fits(0) without kinds", Check.BOUNDS, () -> x.fits(0));
-        x.kind(12);
-        int[] none = {-1, 1, 5, Integer.MIN_VALUE, Integer.MAX_VALUE};
-        for (int kind : none) {
-            Check.refused(x, "fits(" + kind + ")", Check.BOUNDS, () -> x.fits(kind));
-        }
     }
 
     // Promise 14
@@ -129,21 +104,6 @@ public final class WhatWouldBeTest {
         Check.due("would(0, 1)", x.would(0, 1), -1);
     }
 
-    private static void wouldRefused() {
-        SlabKitchen x = new SlabKitchen();
-        Check.refused(x, "would(0, 1) without kinds", Check.BOUNDS, () -> x.would(0, 1));
-        x.kind(2);
-        int[] manys = {0, -1, 151, Integer.MIN_VALUE, Integer.MAX_VALUE};
-        for (int many : manys) {
-            Check.refused(x, "would(0, " + many + ")", Check.ARGUMENT, () -> x.would(0, many));
-            Check.refused(x, "would(1, " + many + ")", Check.BOUNDS, () -> x.would(1, many));
-        }
-        int[] none = {-1, 1, 5, Integer.MIN_VALUE, Integer.MAX_VALUE};
-        for (int kind : none) {
-            Check.refused(x, "would(" + kind + ", 1)", Check.BOUNDS, () -> x.would(kind, 1));
-        }
-    }
-
     // Promise 15
 
     private static void gainsTells() {
@@ -170,16 +130,6 @@ public final class WhatWouldBeTest {
         x.pack(0);
         Check.due("empty ones behind pack(0)", x.about(0, 6) - empty, 1);
         Check.due("gains(0) behind pack(0)", x.gains(0), 0);
-    }
-
-    private static void gainsRefused() {
-        SlabKitchen x = new SlabKitchen();
-        Check.refused(x, "gains(0) without kinds", Check.BOUNDS, () -> x.gains(0));
-        x.kind(12);
-        int[] none = {-1, 1, 5, Integer.MIN_VALUE, Integer.MAX_VALUE};
-        for (int kind : none) {
-            Check.refused(x, "gains(" + kind + ")", Check.BOUNDS, () -> x.gains(kind));
-        }
     }
 
     // Promise 16
@@ -235,30 +185,6 @@ public final class WhatWouldBeTest {
 
     // Promise 18
 
-    private static long mixed(long start, int... numbers) {
-        long d = start;
-        for (int x : numbers) {
-            d = d * 31 + x;
-        }
-        return d;
-    }
-
-    private static void digestOfNew() {
-        SlabKitchen x = new SlabKitchen();
-        long d = mixed(1733, 0, 0, 12, 0, 0, 0, 0, 0, 0, 0);
-        for (int shelf = 0; shelf < 12; shelf++) {
-            d = mixed(d, -1, 0, 0, 0, -1, -1);
-        }
-        Check.due("digest() of a new kitchen", x.digest(), d);
-        Check.due("digest() again", x.digest(), d);
-        x.kind(5);
-        d = mixed(1733, 0, 1, 12, 0, 0, 0, 0, 0, 0, 0);
-        for (int shelf = 0; shelf < 12; shelf++) {
-            d = mixed(d, -1, 0, 0, 0, -1, -1);
-        }
-        Check.due("digest() with a kind", x.digest(), mixed(d, 5, 4, 4, 0, 0, 0, 0, 0, 0, 0));
-    }
-
     private static void digestOfUsed() {
         SlabKitchen x = new SlabKitchen();
         x.kind(7);
@@ -267,15 +193,15 @@ public final class WhatWouldBeTest {
         Check.putRow(x, 0, 4);
         x.put(1);
         Check.takeAll(x, 7, 48);
-        long d = mixed(1733, 7, 2, 9, 3, 21, 51, 6, 5, 0, 1);
-        d = mixed(d, 0, 2, 0, 3, 1, -1, 1, 0, 1);
-        d = mixed(d, 0, 1, 1, 3, 1, -1, 1, 0, 0);
-        d = mixed(d, 1, 0, 0, 2, 0, 7, 0, 0);
+        long d = Check.mixed(1733, 7, 2, 9, 3, 21, 51, 6, 5, 0, 1);
+        d = Check.mixed(d, 0, 2, 0, 3, 1, -1, 1, 0, 1);
+        d = Check.mixed(d, 0, 1, 1, 3, 1, -1, 1, 0, 0);
+        d = Check.mixed(d, 1, 0, 0, 2, 0, 7, 0, 0);
         for (int shelf = 3; shelf < 12; shelf++) {
-            d = mixed(d, -1, 0, 0, 0, -1, -1);
+            d = Check.mixed(d, -1, 0, 0, 0, -1, -1);
         }
-        d = mixed(d, 7, 3, 3, 2, 0, 2, 0, 3, 2, 7);
-        d = mixed(d, 12, 2, 0, 1, 0, 0, 1, 0, 1, 48);
+        d = Check.mixed(d, 7, 3, 3, 2, 0, 2, 0, 3, 2, 7);
+        d = Check.mixed(d, 12, 2, 0, 1, 0, 0, 1, 0, 1, 48);
         Check.due("digest() of a used kitchen", x.digest(), d);
     }
 }
